@@ -8,6 +8,8 @@ public final class PlainBookTest {
     private final int streets;
     private final int houses;
     private final int daysAhead;
+    /** Whether hardly anything is asked, so that the book gets full. */
+    private final boolean telling;
     private final AddressBook book = new AddressBook();
     private final PlainBook plain = new PlainBook();
     private String call = "";
@@ -19,6 +21,7 @@ public final class PlainBookTest {
         streets = 2 + random.nextInt(31);
         houses = seed % 3 == 0 ? 999 : 6 + random.nextInt(40);
         daysAhead = 1 + random.nextInt(60);
+        telling = seed % 4 == 0;
     }
 
     public static void main(String[] args) {
@@ -31,7 +34,11 @@ public final class PlainBookTest {
 
     private void run(int seed, Due due) {
         for (int c = 0; c < CALLS; c++) {
-            step(c);
+            if (telling && c >= CALLS - 100) {
+                ask(oneOf(68, 99));
+            } else {
+                step(c);
+            }
             due.is("seed " + seed + ", call " + c + ": " + call, got, want);
             if (got != want) {
                 return;
@@ -45,7 +52,7 @@ public final class PlainBookTest {
         } else if (c < 3 + streets) {
             street(random.nextInt(3), c);
         } else {
-            int pick = random.nextInt(100);
+            int pick = random.nextInt(telling ? 60 : 100);
             if (pick < 4) {
                 place(oneOf(90, 120), oneOf(-1, 3));
             } else if (pick < 8) {
@@ -104,14 +111,18 @@ public final class PlainBookTest {
         int kind = random.nextInt(40) == 0 ? oneOf(-1, 5) : kind(random.nextInt(20));
         int a = kind < 2 ? oneOf(-1, plain.ranges()) : kind == 2 ? number(1) : oneOf(-1, plain.points());
         int b = kind == 2 ? number(1) : house();
-        for (int tries = 0; tries < 20 && kind == 3 && !plain.canGet(a, b); tries++) {
-            a = oneOf(-1, plain.points());
+        for (int tries = 0; tries < 20 && !mayGo(kind, a, b); tries++) {
+            a = oneOf(0, kind == 1 ? plain.ranges() : plain.points());
             b = house();
         }
         int day = day();
         call = "change(" + kind + ", " + a + ", " + b + ", " + day + ")";
         got = book.change(kind, a, b, day);
         want = plain.change(kind, a, b, day);
+    }
+
+    private boolean mayGo(int kind, int a, int b) {
+        return kind == 1 ? plain.fits(a, b) : kind != 3 || plain.canGet(a, b);
     }
 
     private static int kind(int pick) {
@@ -158,10 +169,11 @@ public final class PlainBookTest {
         int house = house();
         int extra = random.nextInt(20) == 0 ? oneOf(-1, 26) : random.nextInt(3);
         int day = anyDay();
-        for (int tries = 0; tries < 200 && plain.at(street, house, extra, day) == AddressBook.NONE; tries++) {
-            street = number(1);
-            house = house();
-            day = anyDay();
+        int tries = random.nextInt(200);
+        for (int t = 0; t < tries && plain.at(street, house, extra, day) == AddressBook.NONE; t++) {
+            street = random.nextInt(plain.count(1));
+            house = oneOf(1, houses);
+            day = random.nextInt(plain.count(4) + 200);
         }
         call = "at(" + street + ", " + house + ", " + extra + ", " + day + ")";
         got = book.at(street, house, extra, day);
@@ -191,7 +203,7 @@ public final class PlainBookTest {
     }
 
     private int house() {
-        return random.nextInt(60) == 0 ? oneOf(0, 1000) : oneOf(1, houses);
+        return random.nextInt(60) == 0 ? 1000 * random.nextInt(2) : oneOf(1, houses);
     }
 
     private int day() {

@@ -60,6 +60,9 @@ public final class WildCallsTest {
             for (int move = 0; move < CALLS; move++) {
                 book.change(3, 0, 2 + move % 2, move);
                 book.point(0, 4, move % 26);
+                book.at(0, 999, 0, move);
+                book.where(0, 1, 1000000);
+                book.where(1, 1, 0);
             }
         } catch (RuntimeException thrown) {
             System.out.println("  " + thrown);
