@@ -1,8 +1,7 @@
 /** With all its places, streets, ranges and points a book answers as any other. */
-public final class FullBookTest {
+public final class FullBookTest extends Sentences {
     public static void main(String[] args) {
-        Due due = new Due();
-        AddressBook book = full(due);
+        CountedBook book = full();
         int[] counts = {16, 32, 80, 120, 0};
         for (int what = 0; what < counts.length; what++) {
             due.is("count(" + what + ")", book.count(what), counts[what]);
@@ -10,25 +9,25 @@ public final class FullBookTest {
         due.is("near", book.near(0, 999), 0);
         due.is("order", book.order(119), 59);
         due.is("holes", book.holes(0), 40);
-        due.is("at", book.at(0, 237, 0, 0), AddressBook.NONE);
+        due.is("at", book.at(0, 237, 0, 0), NONE);
         due.is("where", book.where(119, 1, 0), 119);
-        due.is("alias of one with ranges", book.alias(0, 1, 1), AddressBook.STATE);
+        due.is("alias of one with ranges", book.alias(0, 1, 1), STATE);
         due.is("alias", book.alias(31, 0, 1), 1);
         due.is("renumber", book.change(3, 119, 120, 2), 1);
         due.is("at its old house", book.at(31, 119, 1, 2), 119);
         due.is("join", book.change(2, 0, 1, 3), 120);
         due.is("near after the join", book.near(31, 999), 119);
-        due.is("split", book.change(1, 79, 160, 4), AddressBook.ROOM);
+        due.is("split", book.change(1, 79, 160, 4), ROOM);
         due.is("close", book.change(0, 0, 0, 4), 2);
         due.is("remove", book.change(4, 119, 0, 5), 1);
         due.is("live points", book.count(3), 117);
-        splitOfAllPoints(due);
+        splitOfAllPoints();
         due.end();
     }
 
     /** Range r is the houses 2r + 1 and 2r + 2 of street 0; point p is at house p, of extra 1 (point 0 at 120). */
-    private static AddressBook full(Due due) {
-        AddressBook book = new AddressBook();
+    private static CountedBook full() {
+        CountedBook book = new CountedBook();
         for (int p = 0; p < 16; p++) {
             book.place(p + 1, 0);
         }
@@ -45,8 +44,8 @@ public final class FullBookTest {
         return book;
     }
 
-    private static void splitOfAllPoints(Due due) {
-        AddressBook book = Books.withAllPoints();
+    private static void splitOfAllPoints() {
+        CountedBook book = withPoints(120);
         due.is("split of all", book.change(1, 0, 3, 0), 120);
         due.is("close of the lower part", book.change(0, 1, 0, 0), 52);
         due.is("close of the upper part", book.change(0, 2, 0, 0), 68);

@@ -1,38 +1,37 @@
 /** Promise 8: alias. */
-public final class P08AliasTest {
+public final class P08AliasTest extends Sentences {
     public static void main(String[] args) {
-        Due due = new Due();
-        refusals(due);
-        rings(due);
-        chain(due);
+        refusals();
+        rings();
+        chain();
         due.end();
     }
 
-    private static void refusals(Due due) {
-        AddressBook book = Books.withRange();
+    private static void refusals() {
+        CountedBook book = withRange(ALL, 1, 20);
         book.range(2, 0, 1, 5, 10);
-        due.is("street 3", book.alias(3, 0, 10), AddressBook.UNKNOWN);
-        due.is("street -1", book.alias(-1, 0, 10), AddressBook.UNKNOWN);
-        due.is("other 3, UNKNOWN before OUTSIDE", book.alias(0, 3, 9), AddressBook.UNKNOWN);
-        due.is("other -1", book.alias(1, -1, 10), AddressBook.UNKNOWN);
-        due.is("a day before", book.alias(1, 0, 9), AddressBook.OUTSIDE);
-        due.is("day 1000001", book.alias(1, 0, 1000001), AddressBook.OUTSIDE);
-        due.is("OUTSIDE before STATE", book.alias(0, 1, 9), AddressBook.OUTSIDE);
-        due.is("with a live range", book.alias(0, 1, 11), AddressBook.STATE);
-        due.is("with a live range, into itself", book.alias(0, 0, 11), AddressBook.STATE);
+        due.is("street 4", book.alias(4, 0, 10), UNKNOWN);
+        due.is("street -1", book.alias(-1, 0, 10), UNKNOWN);
+        due.is("other 4, UNKNOWN before OUTSIDE", book.alias(0, 4, 9), UNKNOWN);
+        due.is("other -1", book.alias(1, -1, 10), UNKNOWN);
+        due.is("a day before", book.alias(1, 0, 9), OUTSIDE);
+        due.is("day 1000001", book.alias(1, 0, 1000001), OUTSIDE);
+        due.is("OUTSIDE before STATE", book.alias(0, 1, 9), OUTSIDE);
+        due.is("with a live range", book.alias(0, 1, 11), STATE);
+        due.is("with a live range, into itself", book.alias(0, 0, 11), STATE);
         due.is("THE DAY", book.count(4), 10);
         book.change(0, 0, 0, 11);
         due.is("with a closed range", book.alias(0, 1, 12), 1);
         due.is("THE DAY", book.count(4), 12);
-        due.is("has gone", book.alias(0, 2, 12), AddressBook.STATE);
-        due.is("has gone, into itself", book.alias(0, 0, 12), AddressBook.STATE);
+        due.is("has gone", book.alias(0, 2, 12), STATE);
+        due.is("has gone, into itself", book.alias(0, 0, 12), STATE);
         book.change(2, 2, 1, 13);
-        due.is("has gone by a join", book.alias(2, 0, 13), AddressBook.STATE);
-        due.is("the live ranges came with the join", book.alias(1, 0, 13), AddressBook.STATE);
+        due.is("has gone by a join", book.alias(2, 0, 13), STATE);
+        due.is("the live ranges came with the join", book.alias(1, 0, 13), STATE);
     }
 
-    private static void rings(Due due) {
-        AddressBook book = Books.withStreets(4);
+    private static void rings() {
+        CountedBook book = withStreets(4);
         due.is("into itself", book.alias(0, 0, 5), 0);
         due.is("THE DAY", book.count(4), 0);
         due.is("0 into 1", book.alias(0, 1, 5), 1);
@@ -46,8 +45,8 @@ public final class P08AliasTest {
         due.is("what it means", book.holes(3), 3);
     }
 
-    private static void chain(Due due) {
-        AddressBook book = Books.withStreets(32);
+    private static void chain() {
+        CountedBook book = withStreets(32);
         for (int s = 30; s >= 0; s--) {
             due.is(s + " into the next one", book.alias(s, s + 1, 31 - s), 1);
         }
@@ -55,7 +54,7 @@ public final class P08AliasTest {
         book.point(0, 7, 0);
         due.is("the longest chain", book.at(0, 7, 0, 40), 0);
         due.is("the longest chain", book.near(0, 1), 0);
-        due.is("the ring of all", book.alias(31, 0, 40), AddressBook.STATE);
+        due.is("the ring of all", book.alias(31, 0, 40), STATE);
         book.change(0, 0, 0, 40);
         due.is("the ring of all", book.alias(31, 0, 41), 0);
         due.is("THE DAY", book.count(4), 40);

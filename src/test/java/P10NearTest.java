@@ -1,17 +1,16 @@
 /** Promise 10: near. */
-public final class P10NearTest {
+public final class P10NearTest extends Sentences {
     public static void main(String[] args) {
-        Due due = new Due();
-        AddressBook book = Books.withStreets(3);
-        due.is("street 3, UNKNOWN before OUTSIDE", book.near(3, 0), AddressBook.UNKNOWN);
-        due.is("street -1", book.near(-1, 1), AddressBook.UNKNOWN);
-        due.is("house 0", book.near(0, 0), AddressBook.OUTSIDE);
-        due.is("house 1000", book.near(0, 1000), AddressBook.OUTSIDE);
-        due.is("none", book.near(0, 1), AddressBook.NONE);
+        CountedBook book = withStreets(3);
+        due.is("street 3, UNKNOWN before OUTSIDE", book.near(3, 0), UNKNOWN);
+        due.is("street -1", book.near(-1, 1), UNKNOWN);
+        due.is("house 0", book.near(0, 0), OUTSIDE);
+        due.is("house 1000", book.near(0, 1000), OUTSIDE);
+        due.is("none", book.near(0, 1), NONE);
         book.range(0, 1, 1, 999, 0);
         book.range(0, 2, 1, 999, 0);
         book.range(1, 0, 1, 999, 0);
-        due.is("a range without points", book.near(0, 1), AddressBook.NONE);
+        due.is("a range without points", book.near(0, 1), NONE);
         book.point(0, 19, 4);
         book.point(1, 10, 7);
         book.point(1, 10, 3);
@@ -27,7 +26,7 @@ public final class P10NearTest {
         book.change(3, 4, 14, 2);
         due.is("numbered anew", book.near(0, 15), 4);
         book.change(0, 1, 0, 3);
-        due.is("none is live", book.near(0, 15), AddressBook.NONE);
+        due.is("none is live", book.near(0, 15), NONE);
         due.is("another street", book.near(1, 15), 3);
         book.change(0, 0, 0, 4);
         book.alias(0, 1, 5);
@@ -35,7 +34,7 @@ public final class P10NearTest {
         due.end();
     }
 
-    private static int afterRemovalOf19(AddressBook book) {
+    private static int afterRemovalOf19(CountedBook book) {
         book.change(4, 0, 0, 1);
         return book.near(0, 15);
     }

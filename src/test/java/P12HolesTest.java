@@ -1,10 +1,9 @@
 /** Promise 12: holes. */
-public final class P12HolesTest {
+public final class P12HolesTest extends Sentences {
     public static void main(String[] args) {
-        Due due = new Due();
-        AddressBook book = Books.withStreets(3);
-        due.is("holes(-1)", book.holes(-1), AddressBook.UNKNOWN);
-        due.is("holes(3)", book.holes(3), AddressBook.UNKNOWN);
+        CountedBook book = withStreets(3);
+        due.is("holes(-1)", book.holes(-1), UNKNOWN);
+        due.is("holes(3)", book.holes(3), UNKNOWN);
         due.is("without ranges", book.holes(0), 0);
         book.range(0, 0, 1, 10, 0);
         due.is("all", book.holes(0), 10);
@@ -38,7 +37,7 @@ public final class P12HolesTest {
         due.is("a closed range", book.holes(0), 16);
         book.alias(2, 1, 7);
         due.is("an alias of a joined one", book.holes(2), 16);
-        AddressBook wide = Books.withStreets(1);
+        CountedBook wide = withStreets(1);
         wide.range(0, 0, 1, 999, 0);
         wide.point(0, 1, 0);
         wide.point(0, 999, 0);

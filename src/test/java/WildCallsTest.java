@@ -16,8 +16,18 @@ public final class WildCallsTest {
         due.end();
     }
 
+    private static AddressBook bookWithRange() {
+        AddressBook book = new AddressBook();
+        book.place(10, 1);
+        book.street(0, 0);
+        book.street(0, 1);
+        book.street(0, 2);
+        book.range(0, 0, 1, 20, 0);
+        return book;
+    }
+
     private static int run(Random random) {
-        AddressBook book = Books.withRange();
+        AddressBook book = bookWithRange();
         int wild = random.nextInt(10);
         for (int c = 0; c < CALLS; c++) {
             int[] n = new int[6];
@@ -54,7 +64,7 @@ public final class WildCallsTest {
 
     /** Far more moves than an object's 512 calls can tell. */
     private static int moveWithoutEnd() {
-        AddressBook book = Books.withRange();
+        AddressBook book = bookWithRange();
         book.point(0, 1, 0);
         try {
             for (int move = 0; move < CALLS; move++) {
