@@ -14,6 +14,8 @@ public final class P09EdgesTest extends Sentences {
         thenTheLeast();
         streetsThatMeanAnother();
         streetsThatMeanAnotherLater();
+        latestOfTwoStreets();
+        latestOfTwoStreetsOnADay();
         due.end();
     }
 
@@ -265,5 +267,52 @@ public final class P09EdgesTest extends Sentences {
         due.is("both left, the latest, by the new street", book.at(1, 3, 0, 50), 1);
         due.is("only the second is left", book.at(1, 3, 0, 229), 1);
         due.is("then none", book.at(1, 3, 0, 230), NONE);
+    }
+
+    /** Street 1 goes into street 0 on day 60; point 1 left it, its range is closed. */
+    private static void latestOfTwoStreets() {
+        sentence("of several the one that got it latest, then the least");
+        for (int later = 0; later <= 1; later++) {
+            CountedBook book = withPoint();
+            book.range(1, ALL, 1, 20, 10);
+            book.point(1, 3, 0);
+            book.change(RENUMBER, 1 - later, 5, 20);
+            book.change(RENUMBER, later, 6, 50);
+            book.change(CLOSE, 1, 0, 50);
+            book.change(JOIN, 1, 0, 60);
+            due.is("by the one street before it went, latest " + later, book.at(0, 3, 0, 59), 0);
+            due.is("by the other street before it went, latest " + later, book.at(1, 3, 0, 59), 1);
+            for (int street = 0; street <= 1; street++) {
+                due.is("by street " + street + " then, latest " + later, book.at(street, 3, 0, 60), later);
+                due.is("179 days after the latest " + later, book.at(street, 3, 0, 229), later);
+                due.is("180 days after the latest " + later, book.at(street, 3, 0, 230), NONE);
+            }
+        }
+    }
+
+    private static void latestOfTwoStreetsOnADay() {
+        sentence("of several the one that got it latest, then the least");
+        CountedBook passing = withRange(ALL, 1, 20);
+        passing.point(0, 4, 0);
+        passing.range(1, ALL, 1, 20, 10);
+        passing.point(1, 3, 0);
+        passing.change(RENUMBER, 0, 3, 10);
+        passing.change(RENUMBER, 0, 5, 10);
+        passing.change(RENUMBER, 1, 6, 20);
+        passing.change(CLOSE, 1, 0, 20);
+        passing.change(JOIN, 1, 0, 30);
+        due.is("one left it when the other came", passing.at(0, 3, 0, 30), 1);
+        for (int first = 0; first <= 1; first++) {
+            CountedBook book = withPoint();
+            book.range(1, ALL, 1, 20, 10);
+            book.point(1, 3, 0);
+            book.change(RENUMBER, first, 5, 20);
+            book.change(RENUMBER, 1 - first, 5, 20);
+            book.change(CLOSE, 1, 0, 20);
+            book.alias(1, 0, 30);
+            due.is("both on one day, told first " + first, book.at(1, 3, 0, 30), 0);
+            due.is("both on one day, told first " + first, book.at(0, 3, 0, 30), 0);
+            due.is("the day before they are one", book.at(1, 3, 0, 29), 1);
+        }
     }
 }
