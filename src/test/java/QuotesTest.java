@@ -7,7 +7,7 @@ import java.util.regex.Pattern;
 import java.util.stream.Stream;
 
 /**
- * The words that the tests quote stand in the document, and no sentence of its Terms and promises is
+ * The words that the tests quote stand in the document, and no sentence of its Terms and no promise is
  * without a test that quotes some of it.
  */
 public final class QuotesTest {
